@@ -645,6 +645,15 @@ public final class LossyPair {
             return k >= 0 && k < lengthOf(i) ? cells[order[i]][k] : 0;
         }
 
+        /** Answers how many octets there are. */
+        int copyInto(int[] row, int i) {
+            int length = Math.min(lengthOf(i), row.length);
+            if (length > 0) {
+                System.arraycopy(cells[order[i]], 0, row, 0, length);
+            }
+            return length;
+        }
+
         void turnOctet(int i, int k, int mask) {
             if (k >= 0 && k < lengthOf(i)) {
                 cells[order[i]][k] ^= mask & 255;
@@ -1189,10 +1198,7 @@ public final class LossyPair {
         int bodyAt;
 
         void load(Rows net, int i) {
-            many = Math.min(net.lengthOf(i), row.length);
-            for (int k = 0; k < many; k++) {
-                row[k] = net.octetOf(i, k);
-            }
+            many = net.copyInto(row, i);
             next = 0;
         }
 
