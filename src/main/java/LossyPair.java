@@ -116,10 +116,12 @@ public final class LossyPair {
 
     public LossyPair() {
         Sha sha = new Sha();
-        nets[CLIENT] = new Rows(MOST_IN_NET, MOST_OCTETS);
-        nets[SERVER] = new Rows(MOST_IN_NET, MOST_OCTETS);
-        sides[CLIENT] = new Side(CLIENT, sha, nets[SERVER]);
-        sides[SERVER] = new Side(SERVER, sha, nets[CLIENT]);
+        Rows toClient = new Rows(MOST_IN_NET, MOST_OCTETS);
+        Rows toServer = new Rows(MOST_IN_NET, MOST_OCTETS);
+        nets[CLIENT] = toClient;
+        nets[SERVER] = toServer;
+        sides[CLIENT] = new Side(CLIENT, sha, toServer);
+        sides[SERVER] = new Side(SERVER, sha, toClient);
         startAnew(0, 200);
     }
 

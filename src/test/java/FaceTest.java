@@ -15,6 +15,7 @@ public final class FaceTest {
         greet();
         begin();
         write();
+        lastNumber();
         close();
         netSizeOctet();
         fullNet();
@@ -291,6 +292,25 @@ public final class FaceTest {
         LossyPair dead = deadBeforeBegin();
         dead.draft(1, 1);
         CHECK.state("8 DEAD", () -> dead.write(0));
+    }
+
+    /** More calls than are promised, but the end of the numbers is told. */
+    private static void lastNumber() {
+        LossyPair x = Pairs.open();
+        for (int n = 0; n < 65536; n++) {
+            x.draft(1, n);
+            due("8 the number", x.write(0), n);
+            x.lose(1, 0);
+        }
+        x.draft(1, 1);
+        int sent = x.told(0, 5);
+        due("8 it is 65536 already", x.write(0), -1);
+        due("8 THE DRAFT stays", x.draft(1, 2), 2);
+        due("8 nothing is sent", x.net(1) + x.told(0, 5) - sent, 0);
+        CHECK.range("8 an exception goes before", () -> x.write(2));
+        due("8 the server writes", x.write(1), 1);
+        x.close(0);
+        due("9 CLOSED, behind the last number none is sent", x.state(0) * 10 + x.net(1), 30);
     }
 
     private static void close() {

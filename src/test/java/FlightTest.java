@@ -16,6 +16,7 @@ public final class FlightTest {
         fragments();
         timer();
         ninth();
+        eachFlightHasEight();
         timerOfTheServer();
         listAndAcks();
         acksAtTheSecondTick();
@@ -120,6 +121,27 @@ public final class FlightTest {
         due("no ALERT", x.told(0, 8), -1);
         Pairs.ticks(x, 64);
         due("nothing is sent any more", x.told(0, SENT), 9);
+    }
+
+    private static void eachFlightHasEight() {
+        LossyPair x = Pairs.begun(1, 500);
+        x.lose(1, 0);
+        for (int now = 1; now <= 188; now++) {
+            x.tick();
+        }
+        due("the first HELLO eight times again", x.told(0, AGAIN), 8);
+        x.deliver(1, 7);
+        x.deliver(0, 0);
+        Pairs.loseAll(x);
+        due("another FLIGHT", x.told(0, NOT_ACKED), 77);
+        due("its TIMER is 4 again", x.told(0, TIMER), 4);
+        for (int now = 189; now <= 188 + 219; now++) {
+            x.tick();
+        }
+        due("it is SENT AGAIN eight times, too", x.told(0, AGAIN), 16);
+        due("not yet DEAD", x.state(0), 1);
+        x.tick();
+        due("then DEAD", x.state(0), 4);
     }
 
     private static void timerOfTheServer() {
@@ -382,9 +404,12 @@ public final class FlightTest {
         LossyPair x = Pairs.open();
         byte[] want = new byte[0];
         for (int n = 1; n <= 12; n++) {
-            Pairs.hit(x, 1, Pairs.sealed(x, 1, 2, 50 - n, 22, Octets.fragment(20, 32, 1, 0, new byte[32])));
+            boolean open = n % 3 == 0;
+            Pairs.hit(x, 1, open
+                    ? Octets.openRecord(22, 50 - n, Octets.fragment(1, 61, 0, 0, new byte[61]))
+                    : Pairs.sealed(x, 1, 2, 50 - n, 22, Octets.fragment(20, 32, 1, 0, new byte[32])));
             due("LIST", x.told(1, LISTED), Math.min(8, n + 1));
-            want = n > 4 ? Octets.join(want, entry(2, 50 - n)) : want;
+            want = n > 4 ? Octets.join(want, entry(open ? 0 : 2, 50 - n)) : want;
         }
         byte[] record = Octets.sealedRecord(Pairs.secret(x, 1, 3), 3, 12, 26, want);
         same("the latest 8, in the order in which they came", Pairs.datagram(x, 0, 11), record);

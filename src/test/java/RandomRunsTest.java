@@ -15,9 +15,9 @@ public final class RandomRunsTest {
     /** Datagrams that were seen in the net, with the side to which they went. */
     private final List<byte[]> seen = new ArrayList<>();
 
-    private RandomRunsTest(Check check, int run) {
+    private RandomRunsTest(LossyPair x, Check check, int run) {
         dice = new Random(1000L + run);
-        twin = new Twin(check, "run " + run);
+        twin = new Twin(x, check, "run " + run);
     }
 
     public static void main(String[] args) {
@@ -25,9 +25,13 @@ public final class RandomRunsTest {
         int runs = args.length > 0 ? Integer.parseInt(args[0]) : RUNS;
         int first = args.length > 1 ? Integer.parseInt(args[1]) : 0;
         int[] ends = new int[5];
+        LossyPair x = new LossyPair();
         for (int run = first; run < first + runs; run++) {
-            RandomRunsTest test = new RandomRunsTest(check, run);
-            test.play(run);
+            // Most runs make an object anew that was used before: nothing of that may be left.
+            boolean fresh = run % 8 == 0;
+            x = fresh ? new LossyPair() : x;
+            RandomRunsTest test = new RandomRunsTest(x, check, run);
+            test.play(run, fresh);
             ends[test.twin.state(0)]++;
         }
         for (int state = 1; state < 5; state++) {
@@ -36,9 +40,13 @@ public final class RandomRunsTest {
         check.end();
     }
 
-    private void play(int run) {
+    private void play(int run, boolean fresh) {
         int calls = 60 + dice.nextInt(200);
         int meddling = dice.nextInt(4);
+        if (!fresh || dice.nextInt(3) != 0) {
+            int mtu = dice.nextInt(3) == 0 ? 100 + dice.nextInt(401) : 100 + dice.nextInt(60);
+            twin.make(dice.nextInt(8), mtu);
+        }
         prepare();
         for (int call = 0; call < calls; call++) {
             twin.where = "run " + run + " call " + call;
@@ -54,13 +62,13 @@ public final class RandomRunsTest {
             }
         }
         twin.compareSecretsAndWritings();
+        if (dice.nextInt(2) == 0) {
+            // What is drafted when the object is made anew is gone then.
+            twin.draft(octets(1 + dice.nextInt(20)));
+        }
     }
 
     private void prepare() {
-        if (dice.nextInt(12) != 0) {
-            int mtu = dice.nextInt(3) == 0 ? 100 + dice.nextInt(401) : 100 + dice.nextInt(60);
-            twin.make(dice.nextInt(8), mtu);
-        }
         long high = dice.nextLong();
         long low = dice.nextLong();
         long name = dice.nextLong();
@@ -70,8 +78,10 @@ public final class RandomRunsTest {
             twin.name(0, name, dice.nextLong());
             twin.name(1, dice.nextInt(20) == 0 ? name ^ 1 : name, dice.nextLong());
         }
-        twin.draft(octets(dice.nextInt(151)));
-        twin.greet();
+        if (dice.nextInt(4) != 0) {
+            twin.draft(octets(dice.nextInt(151)));
+            twin.greet();
+        }
         if (dice.nextInt(20) == 0) {
             meddle();
         }

@@ -1,11 +1,13 @@
 /** The class and the model side by side: each call goes to both, and all that can be asked is compared. */
 final class Twin {
-    final LossyPair x = new LossyPair();
+    final LossyPair x;
     final Check check;
     String where;
     Model m = new Model(0, 200);
 
-    Twin(Check check, String where) {
+    /** The object may have been used before; then make is to be the first call. */
+    Twin(LossyPair x, Check check, String where) {
+        this.x = x;
         this.check = check;
         this.where = where;
     }
