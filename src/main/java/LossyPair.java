@@ -1421,7 +1421,7 @@ public final class LossyPair {
 
         /** Hears what is in a record that CAME; answers what is due by it. */
         int hear(Arrival a) {
-            boolean sound = true;
+            boolean sound;
             int due = DUE_NOTHING;
             switch (a.type) {
                 case HANDSHAKE:

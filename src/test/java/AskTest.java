@@ -156,7 +156,9 @@ public final class AskTest {
         CHECK.range("22 none such", () -> x.gotOctet(0, 103, -1));
         x.make(0, 200);
         due("2 none", x.got(0), 0);
-        CHECK.range("2 none", () -> x.gotOctet(0, 0, -1));
+        for (int k : new int[] {-100, -1, 0, 99}) {
+            CHECK.range("2 none", () -> x.gotOctet(0, k, -1));
+        }
     }
 
     private static void secret() {
