@@ -1416,7 +1416,8 @@ public final class LossyPair {
             }
             schedule.veil(a.row, a.at, which, a.sealedMany());
             a.takeType();
-            return a.type == DATA && a.epoch == 3 && !isOpen() ? EARLY : CAME;
+            // By whatever EPOCH: that DATA is not by EPOCH 3 is told of a record that CAME alone.
+            return a.type == DATA && !isOpen() ? EARLY : CAME;
         }
 
         /** Hears what is in a record that CAME; answers what is due by it. */

@@ -521,7 +521,7 @@ final class Model {
             }
             byte[] plain = Octets.veil(key, epoch, number, sealed);
             int type = plain[plain.length - 1] & 255;
-            if (type == 23 && epoch == 3 && state != 2 && state != 3) {
+            if (type == 23 && state != 2 && state != 3) {
                 told[1]++;
                 return 0;
             }

@@ -23,6 +23,8 @@ public final class RecordTest {
         alertsOfEpochZero();
         deadHearsNothing();
         dataIsEarly();
+        dataByEpochTwoIsEarly();
+        dataByEpochTwoToOneThatIsOpen();
         sealedAsTold();
         CHECK.end();
     }
@@ -297,6 +299,82 @@ public final class RecordTest {
         y.close(1);
         Pairs.hit(y, 1, Pairs.sealed(y, 1, 3, 9, 23, Octets.of(5)));
         due("to one that is CLOSED", y.got(1), 1);
+    }
+
+    /** The server, or the client, with SECRETS of EPOCH 2, and waiting for more. */
+    private static LossyPair waiting(int side) {
+        LossyPair x = Pairs.begun(0, 100);
+        x.deliver(1, 0);
+        if (side == 0) {
+            x.deliver(0, 0);
+        }
+        due("it waits for more", x.state(side), 1);
+        due("it has SECRETS of EPOCH 2", x.secret(side, 0, 0) >= 0 ? 1 : 0, 1);
+        return x;
+    }
+
+    private static void dataByEpochTwoIsEarly() {
+        for (int side = 0; side < 2; side++) {
+            for (int many : new int[] {0, 1, 60, 61, 200}) {
+                LossyPair x = waiting(side);
+                int came = x.told(side, CAME);
+                int early = x.told(side, EARLY);
+                byte[] data = Pairs.sealed(x, side, 2, 140, 23, new byte[many]);
+                due("DATA by EPOCH 2 does not come", Pairs.hit(x, side, data), 0);
+                due("nor when it is there again", Pairs.hit(x, side, data, data), 0);
+                due("EARLY each time", x.told(side, EARLY), early + 3);
+                due("it is not counted as CAME", x.told(side, CAME), came);
+                due("what is in it is not looked at", x.told(side, MALFORMED), 0);
+                due("its number is not STALE", x.told(side, STALE) + x.told(side, FORGED), 0);
+                due("it moves no window", Pairs.hit(x, side, Pairs.sealed(x, side, 2, 30, 26)), 1);
+                byte[] ack = Pairs.sealed(x, side, 2, 140, 26);
+                due("its number is free, and the datagram goes on", Pairs.hit(x, side, data, ack), 1);
+                due("EARLY, and then one CAME", x.told(side, EARLY), early + 4);
+                due("the number is STALE then, for DATA too", Pairs.hit(x, side, data), 0);
+                due("STALE goes before EARLY DATA", x.told(side, STALE), 1);
+                due("STALE goes before EARLY DATA", x.told(side, EARLY), early + 4);
+                byte[] forged = Pairs.sealed(x, side, 2, 141, 23, new byte[many]);
+                forged[5] ^= 1;
+                Pairs.hit(x, side, forged);
+                due("FORGED goes before EARLY DATA", x.told(side, FORGED), 1);
+                due("nothing is delivered", x.got(side), 0);
+                due("it waits yet", x.state(side), 1);
+            }
+        }
+    }
+
+    private static void dataByEpochTwoToOneThatIsOpen() {
+        for (int side = 0; side < 2; side++) {
+            for (int state = 2; state <= 3; state++) {
+                LossyPair x = Pairs.open();
+                if (state == 3) {
+                    x.close(side);
+                }
+                due("OPEN, or CLOSED", x.state(side), state);
+                int came = x.told(side, CAME);
+                byte[] data = Pairs.sealed(x, side, 2, 40, 23, Octets.of(9));
+                due("to one that is OPEN it comes", Pairs.hit(x, side, data), 1);
+                due("CAME", x.told(side, CAME), came + 1);
+                due("but it is MALFORMED", x.told(side, MALFORMED), 1);
+                due("not EARLY", x.told(side, EARLY), 0);
+                due("nor delivered", x.got(side), 0);
+                due("its number came", Pairs.hit(x, side, data), 0);
+                due("STALE", x.told(side, STALE), 1);
+            }
+        }
+        // The client's FLIGHT is OVER when DATA is delivered; by what is MALFORMED nothing is done.
+        LossyPair y = Pairs.clientOpen();
+        Pairs.hit(y, 0, Pairs.sealed(y, 0, 2, 40, 23, Octets.of(9)));
+        due("MALFORMED", y.told(0, MALFORMED), 1);
+        due("the FLIGHT of the client is not OVER", y.told(0, 12), 32);
+        // EARLY at first, and MALFORMED when the same record comes again to the server that is OPEN then.
+        byte[] data = Pairs.sealed(y, 1, 2, 40, 23, Octets.of(9));
+        due("EARLY", Pairs.hit(y, 1, data), 0);
+        due("FINISHED", y.deliver(1, 0), 1);
+        due("OPEN", y.state(1), 2);
+        due("it comes now", Pairs.hit(y, 1, data), 1);
+        due("EARLY once", y.told(1, EARLY), 1);
+        due("MALFORMED once", y.told(1, MALFORMED), 1);
     }
 
     private static void sealedAsTold() {
