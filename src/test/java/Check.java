@@ -1,3 +1,5 @@
+import java.util.Arrays;
+
 /** Counts and prints the answers that are not as due. */
 final class Check {
     private final String test;
@@ -14,6 +16,20 @@ final class Check {
             wrong++;
             System.out.println(test + ": " + what + " answered " + got + ", due is " + want);
         }
+    }
+
+    void yes(String what, boolean got) {
+        due(what, got ? 1 : 0, 1);
+    }
+
+    void same(String what, byte[] got, byte[] want) {
+        yes(what, Arrays.equals(got, want));
+    }
+
+    /** Tells the first place at which two rows differ. */
+    void same(String what, int[] got, int[] want) {
+        int at = Arrays.mismatch(got, want);
+        yes(at < 0 ? what : what + " (at " + at + ")", at < 0);
     }
 
     /** A call that is to throw just this exception. */
