@@ -15,7 +15,9 @@ public final class CallEdgesTest {
     public static void main(String[] args) {
         newObject();
         madeWithin();
+        wantsEach();
         madeAnew();
+        allZeros();
         keyHighestFirst();
         nameHighestFirst();
         keyOfOneDeadOrBegun();
@@ -79,25 +81,68 @@ public final class CallEdgesTest {
         }
     }
 
+    /** Promise 2: "Two sides anew: wants is 1 for COOKIES of the server, and 2 for a SHARE of the client, and 4 for one" */
+    private static void wantsEach() {
+        for (int wants = 0; wants <= 7; wants++) {
+            LossyPair x = Scenes.make(15);
+            x.make(wants, 500);
+            x.begin();
+            due("2 a SHARE of the client, " + wants, Octets.u4At(Pairs.datagram(x, 1, 0), 31) != 0 ? 1 : 0, wants >> 1 & 1);
+            x.deliver(1, 0);
+            due("2 COOKIES of the server, " + wants, x.octet(0, 0, 6), (wants & 1) != 0 ? 6 : 2);
+            if ((wants & 1) != 0) {
+                x.deliver(0, 0);
+                x.deliver(1, 0);
+            }
+            due("2 a SHARE of both, " + wants, Octets.u4At(Pairs.datagram(x, 0, 0), 30) != 0 ? 1 : 0, wants >= 6 ? 1 : 0);
+            x.deliver(0, 0);
+            due("2 OPEN, " + wants, x.state(0), 2);
+        }
+    }
+
     /**
      * Promise 2: "Two sides anew"; "Shared KEYS, NAMES and SEEDS are all 0s, no GREETING; an empty net, NOW 0; THE
      * DRAFT is empty."
      */
     private static void madeAnew() {
         for (int scene = 0; scene < Scenes.NAMES.length; scene++) {
-            String where = "2 anew from " + Scenes.NAMES[scene] + ": ";
-            LossyPair x = Scenes.make(scene);
-            Pairs.draft(x, new byte[500]);
-            Pairs.ticks(x, 3);
-            x.make(3, 100);
-            LossyPair y = new LossyPair();
-            y.make(3, 100);
-            CHECK.same(where + "at once", Snapshot.of(x), Snapshot.of(y));
-            for (int step = 0; step < 8; step++) {
-                due(where + "step " + step, course(x, step), course(y, step));
-                CHECK.same(where + "behind step " + step, Snapshot.of(x), Snapshot.of(y));
+            for (int wants : new int[] {0, 1, 6, 7}) {
+                String where = "2 make(" + wants + ", 100) from " + Scenes.NAMES[scene] + ": ";
+                LossyPair x = Scenes.make(scene);
+                Pairs.draft(x, new byte[500]);
+                Pairs.ticks(x, 3);
+                x.make(wants, 100);
+                LossyPair y = new LossyPair();
+                y.make(wants, 100);
+                CHECK.same(where + "at once", Snapshot.of(x), Snapshot.of(y));
+                for (int k : new int[] {-101, -100, -1, 0, 1, 99, 100}) {
+                    CHECK.range(where + "no writing", () -> x.gotOctet(1, k, -1));
+                    CHECK.range(where + "no writing", () -> x.gotOctet(0, k, 0));
+                }
+                for (int step = scene % 2; step < 9; step++) {
+                    due(where + "step " + step, course(x, step), course(y, step));
+                    CHECK.same(where + "behind step " + step, Snapshot.of(x), Snapshot.of(y));
+                }
             }
         }
+    }
+
+    /** Promise 2, held against the Java library: KEYS, NAMES and SEEDS of 0s, where none was 0 before. */
+    private static void allZeros() {
+        LossyPair x = Scenes.make(15);
+        x.make(0, 500);
+        due("2 it begins", x.begin(), 1);
+        byte[] hello = Octets.part(Pairs.datagram(x, 1, 0), 14, 75);
+        byte[] random = Octets.part(Octets.mac(new byte[8], Octets.of(0, 0, 0)), 0, 16);
+        byte[] front = Octets.join(random, new byte[1 + 4 + 8]);
+        byte[] early = Octets.mac(new byte[32], new byte[16]);
+        byte[] binder = Octets.mac(Octets.expand(early, "binder"), Octets.hash(Octets.of(1, 0, 61), front));
+        CHECK.same("2 the client's", hello, Octets.join(front, binder));
+        x.deliver(1, 0);
+        due("2 the server's KEY and NAME", x.state(1), 1);
+        random = Octets.part(Octets.mac(new byte[8], Octets.of(1, 0, 0)), 0, 16);
+        CHECK.same("2 the server's SEED", Octets.part(Pairs.datagram(x, 0, 0), 14, 34), Octets.join(random, new byte[4]));
+        due("2 no GREETING", x.told(1, 12), 54);
     }
 
     /** What shows KEYS, NAMES, SEEDS, GREETING, NOW, THE DRAFT, windows, numbers and LIST. */
@@ -106,16 +151,18 @@ public final class CallEdgesTest {
             case 0:
                 return x.draft(8, 5) * 100 + x.tick();
             case 1:
-                return x.inject(1) * 1000 + x.deliver(1, 0) * 100 + x.begin();
+                return x.inject(1) * 10 + x.begin();
             case 2:
-                return x.run(1);
+                return x.tick() + x.tick() + x.tick() + x.tick();
             case 3:
-                return x.deliver(1, 0);
+                return x.run(1);
             case 4:
-                return x.net(0) > 1 ? x.deliver(0, 0) * 10 + x.tick() : -9;
+                return x.net(1) > 0 ? x.deliver(1, 0) : -9;
             case 5:
-                return x.run(3);
+                return x.net(0) > 1 ? x.deliver(0, 0) * 10 + x.tick() : -9;
             case 6:
+                return x.run(3);
+            case 7:
                 return x.draft(8, 6) + (x.state(0) == 2 ? x.write(0) : -9);
             default:
                 return x.run(100);

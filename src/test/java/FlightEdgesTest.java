@@ -33,18 +33,21 @@ public final class FlightEdgesTest {
         timers();
         ninthByFragment();
         ninthOfBothWays();
+        eightOfEachFlight();
         overWhenAllAcked();
         overByRetryOrAnswer();
         overWhenServerIsOpen();
         overWhenDataCame();
         ofAnySending();
         ofThisFlightAlone();
+        numberOfTwoOctets();
         latestEight();
         listOfHandshakeAlone();
         listSinceItsFlight();
         noList();
         atTheSecondTick();
         nothingWithoutList();
+        acksAheadOfTheTimer();
         serverAcksWhenOpen();
         nowIsAbove();
         whoSendsAgain();
@@ -250,6 +253,29 @@ public final class FlightEdgesTest {
         due("4 32 behind that", x.state(0), 4);
     }
 
+    /** "of a FLIGHT": a new one has eight SENDINGS AGAIN of its own. */
+    private static void eightOfEachFlight() {
+        LossyPair x = Pairs.begun(0, 500);
+        tickAndLose(x, 188);
+        due("4 eight of the first HELLO", x.told(0, AGAIN), 8);
+        hit(x, 0, 9, whole(RETRY, 0, 16));
+        Pairs.loseAll(x);
+        tickAndLose(x, 188);
+        due("4 eight of the second", x.told(0, AGAIN), 16);
+        tickAndLose(x, 31);
+        due("4 not DEAD yet", x.state(0), 1);
+        tickAndLose(x, 1);
+        due("4 then DEAD", x.state(0), 4);
+        LossyPair y = Pairs.begun(0, 500);
+        tickAndLose(y, 187);
+        y.tick();
+        y.deliver(1, 0);
+        y.deliver(0, 0);
+        Pairs.loseAll(y);
+        tickAndLose(y, 188);
+        due("4 eight of HELLO, eight of FINISHED", y.told(0, AGAIN) * 10 + y.state(0), 162);
+    }
+
     /** "It is OVER (no TIMER, nothing is SENT AGAIN): when all its octets were ACKED" */
     private static void overWhenAllAcked() {
         LossyPair x = Scenes.answered();
@@ -371,6 +397,29 @@ public final class FlightEdgesTest {
         due("4 RETRY is in no FLIGHT", z.told(1, NOT_ACKED), 54);
         Pairs.hit(z, 1, Octets.openRecord(26, 41, entry(0, 1)));
         due("4 ANSWER is", z.told(1, NOT_ACKED), 34);
+    }
+
+    /** 2: "ACK: u1 EPOCH and u2 number of each record that it tells.": ANSWER as the record 256 of the server. */
+    private static void numberOfTwoOctets() {
+        for (int before : new int[] {253, 254, 255, 256}) {
+            LossyPair x = Pairs.begun(1, 500);
+            for (int n = 0; n < before; n++) {
+                hit(x, 1, 1000 + n, whole(HELLO, 0, 61));
+                x.lose(0, 0);
+            }
+            x.forge(1, 0, 2, 8);
+            x.deliver(1, 0);
+            x.deliver(0, 0);
+            x.forge(1, 0, 2, 8);
+            x.deliver(1, 0);
+            due("4 the number of ANSWER", Octets.u2At(Pairs.datagram(x, 0, 0), 2), before + 1);
+            int high = before + 1 >> 8;
+            int low = before + 1 & 255;
+            Pairs.hit(x, 1, Octets.openRecord(26, 3000, Octets.of(0, 0, low, 0, high + 1, low, 0, high, low + 1)));
+            due("4 other records", x.told(1, NOT_ACKED), high == 0 ? 34 : 54);
+            Pairs.hit(x, 1, Octets.openRecord(26, 3001, Octets.of(0, high, low)));
+            due("4 that record", x.told(1, NOT_ACKED), 34);
+        }
     }
 
     /** "A side's LIST: EPOCH and number of the latest 8 HANDSHAKE records"; "in the order in which they came" */
@@ -496,6 +545,26 @@ public final class FlightEdgesTest {
         due("4 the server OPEN has a LIST", z.told(1, LISTED), 1);
         Pairs.ticks(z, 5);
         due("4 but waits for nothing", z.net(0), 0);
+    }
+
+    /** Promise 10: "it ACKS, if it is time; its TIMER, if it is time.", both at one TICK, at the ninth time, too. */
+    private static void acksAheadOfTheTimer() {
+        int[] before = {2, 4 + 8 + 16 + 32 + 32 + 32 + 32 + 32 + 30};
+        for (int side = 0; side < 2; side++) {
+            for (int wait : before) {
+                LossyPair x = unheard(side);
+                tickAndLose(x, wait);
+                int sent = x.told(side, SENT);
+                hit(x, side, 40, side == 0 ? Octets.fragment(ANSWER, 20, 0, 0, new byte[1]) : whole(FINISHED, 2, 32));
+                tickAndLose(x, 1);
+                due("4 not yet", x.told(side, SENT), sent);
+                x.tick();
+                boolean ninth = wait > 2;
+                due("4 first the ACK, alone or not", x.size(1 - side, 0), side == 0 ? 6 + 3 : 5 + 3 + 9);
+                due("4 then the FLIGHT, or DEAD", x.net(1 - side), ninth ? 1 : side == 0 ? 2 : 5);
+                due("4 then the FLIGHT, or DEAD", x.state(side), ninth ? 4 : 1);
+            }
+        }
     }
 
     /** "the server, when it gets OPEN, and from then on when a FRAGMENT of a NUMBER comes that was taken" */

@@ -34,6 +34,8 @@ public final class MessageEdgesTest {
         binderOctets();
         waitsForHelloAsBefore();
         numberOfHello();
+        settingsTellTheMtu();
+        transcripts();
         retryOnce();
         shareUnwanted();
         serverWithoutShare();
@@ -257,7 +259,11 @@ public final class MessageEdgesTest {
             due("3 that is all", x.state(1) + x.told(1, NEXT) + x.told(1, 7) + x.told(1, LISTED), 0);
             due("3 no ALERT", x.told(1, ALERT), -1);
         }
-        LossyPair x = withCookie();
+        LossyPair x = Pairs.begun(1, 500);
+        byte[] random = Octets.part(Pairs.datagram(x, 1, 0), 14, 30);
+        x.deliver(1, 0);
+        CHECK.same("3 these", Octets.part(Pairs.datagram(x, 0, 0), 14, 30), Octets.part(Octets.mac(Octets.u8(6), random), 0, 16));
+        x.deliver(0, 0);
         x.deliver(1, 0);
         due("3 the right one", x.state(1), 1);
         LossyPair none = Pairs.begun(1, 500);
@@ -353,6 +359,39 @@ public final class MessageEdgesTest {
             y.deliver(1, 0);
             due("3 the server took FINISHED", y.told(1, NEXT), number + 2);
             due("3 OPEN", y.state(1), 2);
+        }
+    }
+
+    /** "8 SETTINGS: u2 its MTU, its GREETING (0 to 150)" */
+    private static void settingsTellTheMtu() {
+        for (int mtu : new int[] {100, 127, 128, 255, 256, 257, 499, 500}) {
+            LossyPair x = Scenes.greeted(0, mtu, mtu == 100 ? 0 : 1);
+            x.begin();
+            x.deliver(1, 0);
+            byte[] settings = Octets.join(Octets.u2(mtu), new byte[mtu == 100 ? 0 : 1]);
+            byte[] want = Octets.sealedRecord(Pairs.secret(x, 1, 1), 2, 0, 22, Octets.fragment(SETTINGS, settings.length, 1, 0, settings));
+            CHECK.same("3 MTU " + mtu, Octets.part(Pairs.datagram(x, 0, 0), 34, 34 + want.length), want);
+        }
+    }
+
+    /** "T(m1, m2, ..) is HASH of MESSAGES, one behind the other.": from the shortest to the longest there are. */
+    private static void transcripts() {
+        for (int wants : new int[] {0, 1, 6, 7}) {
+            for (int many : new int[] {0, 1, 125, 126, 127, 149, 150}) {
+                Twin twin = new Twin(new LossyPair(), CHECK, "3 wants " + wants + ", GREETING " + many);
+                twin.make(wants, many % 2 == 0 ? 100 : 500);
+                twin.key(0, 9, 8);
+                twin.key(1, 9, 8);
+                twin.draft(new byte[many]);
+                twin.greet();
+                twin.begin();
+                for (int n = 0; n < 4; n++) {
+                    twin.run(1);
+                    twin.compare();
+                    twin.compareSecretsAndWritings();
+                }
+                due("3 OPEN", twin.state(0) * 10 + twin.state(1), 22);
+            }
         }
     }
 

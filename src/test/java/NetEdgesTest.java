@@ -33,6 +33,8 @@ public final class NetEdgesTest {
         secretNone();
         secretEdges();
         toldEdges();
+        firstAlert();
+        heardClose();
         CHECK.end();
     }
 
@@ -312,7 +314,7 @@ public final class NetEdgesTest {
 
     /** Promise 20: "0 it waits to begin, or for HELLO; 1 it waits for more; 2 it is OPEN; 3 CLOSED; 4 DEAD." */
     private static void states() {
-        int[] want = {0, 0, 10, 11, 11, 21, 22, 22, 32, 23, 40, 4, 44, 0, 22};
+        int[] want = {0, 0, 10, 11, 11, 21, 22, 22, 32, 23, 40, 4, 44, 0, 22, 22, 21};
         for (int scene = 0; scene < want.length; scene++) {
             LossyPair x = Scenes.make(scene);
             due("20 " + Scenes.NAMES[scene], x.state(0) * 10 + x.state(1), want[scene]);
@@ -390,9 +392,9 @@ public final class NetEdgesTest {
     /** Promise 23: "NONE when it has it not." */
     private static void secretNone() {
         String[] clients = {"------", "------", "------", "------", "++--++", "++++++", "++++++", "++++++", "++++++",
-            "++++++", "------", "------", "++++++", "------", "++++++"};
+            "++++++", "------", "------", "++++++", "------", "++++++", "++++++", "++++++"};
         String[] servers = {"------", "------", "------", "++++++", "++++++", "++++++", "++++++", "++++++", "++++++",
-            "++++++", "------", "------", "++++++", "------", "++++++"};
+            "++++++", "------", "------", "++++++", "------", "++++++", "++++++", "++++++"};
         for (int scene = 0; scene < clients.length; scene++) {
             LossyPair x = Scenes.make(scene);
             CHECK.yes("23 the client, " + Scenes.NAMES[scene], secretsOf(x, 0).equals(clients[scene]));
@@ -434,5 +436,48 @@ public final class NetEdgesTest {
         LossyPair x = Pairs.begun(0, 500);
         due("24 the first", x.told(0, 0), 0);
         due("24 the last", x.told(0, 12), 61);
+        LossyPair y = Scenes.make(16);
+        for (int what = 0; what < 13; what++) {
+            CHECK.yes("24 told(0, " + what + ")", what == 8 ? y.told(0, 8) == -1 : y.told(0, what) > 0);
+        }
+    }
+
+    /** Promise 24: "the ALERT that it sent or that came, NONE without one (8; the first that is not 0)" */
+    private static void firstAlert() {
+        LossyPair x = Pairs.begun(0, 500);
+        due("24 NONE", x.told(0, 8) + x.told(1, 8), -2);
+        x.twice(1, 0);
+        x.forge(1, 0, 42, 1);
+        x.deliver(1, 0);
+        due("24 that it sent", x.told(1, 8), 40);
+        x.forge(1, 0, 3, 5);
+        x.forge(1, 0, 74, 1);
+        x.deliver(1, 0);
+        due("24 51 was sent, but 40 is the first", x.net(0) * 100 + x.told(1, 8), 240);
+        Pairs.hit(x, 1, Octets.openRecord(21, 9, Octets.of(77)));
+        due("24 77 came, but 40 is the first", x.state(1) * 100 + x.told(1, 8), 440);
+        x.deliver(0, 1);
+        due("24 that came", x.told(0, 8), 51);
+        LossyPair y = Pairs.open();
+        y.close(0);
+        Pairs.hit(y, 0, Pairs.sealed(y, 0, 3, 9, 21, Octets.of(0)));
+        due("24 CLOSE sent, and come: NONE", y.told(0, 8), -1);
+        Pairs.hit(y, 0, Pairs.sealed(y, 0, 3, 10, 21, Octets.of(255)));
+        due("24 the first that is not 0", y.told(0, 8), 255);
+    }
+
+    /** Promise 24: "whether it heard CLOSE (9)" */
+    private static void heardClose() {
+        LossyPair x = Pairs.open();
+        x.close(0);
+        due("24 not yet, nor one that closes", x.told(0, 9) + x.told(1, 9), 0);
+        x.lose(1, 0);
+        x.run(1);
+        due("24 CLOSE is lost", x.told(1, 9), 0);
+        Pairs.hit(x, 1, Pairs.sealed(x, 1, 3, 9, 21, Octets.of(0)));
+        Pairs.hit(x, 1, Pairs.sealed(x, 1, 3, 10, 21, Octets.of(0)));
+        due("24 twice is 1, too", x.told(1, 9), 1);
+        x.make(0, 500);
+        due("2 anew", x.told(1, 9), 0);
     }
 }

@@ -185,6 +185,10 @@ public final class RecordEdgesTest {
             if (x.write(1) != n) {
                 due("8 the number", -1, n);
             }
+            if (n == 255 || n == 256 || n == 257 || n == 65535) {
+                CHECK.same("2 the record " + n, Pairs.datagram(x, 0, 0),
+                        Octets.sealedRecord(Pairs.secret(x, 1, 3), 3, n, 23, Octets.of(n)));
+            }
             x.lose(0, 0);
         }
         int sent = x.told(1, 5);

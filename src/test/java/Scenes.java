@@ -2,7 +2,8 @@
 final class Scenes {
     static final String[] NAMES = {"new", "ready", "begun", "HELLO answered", "ANSWER taken", "client OPEN", "both OPEN",
         "more than 100 writings", "client CLOSED", "server CLOSED", "client DEAD, not begun", "server DEAD, not begun",
-        "both DEAD", "full net, not begun", "full net, OPEN"};
+        "both DEAD", "full net, not begun", "full net, OPEN", "OPEN with COOKIE and SHARE",
+        "all of it counted"};
 
     private Scenes() {
     }
@@ -35,8 +36,12 @@ final class Scenes {
                 return bothDead();
             case 13:
                 return full(Pairs.ready(0, 500));
-            default:
+            case 14:
                 return full(Pairs.open());
+            case 15:
+                return cookieAndShare();
+            default:
+                return allCounted();
         }
     }
 
@@ -94,6 +99,43 @@ final class Scenes {
         for (int side = 0; side < 2; side++) {
             Pairs.hit(x, side, Pairs.sealed(x, side, 3, 60, 21, Octets.of(99)));
         }
+        return x;
+    }
+
+    /** KEYS, NAMES, SEEDS and the GREETING are without an octet 0. */
+    private static LossyPair cookieAndShare() {
+        LossyPair x = new LossyPair();
+        x.make(7, 100);
+        for (int side = 0; side < 2; side++) {
+            x.key(side, -1, -2);
+            x.name(side, -3, -4);
+        }
+        byte[] greeting = new byte[150];
+        java.util.Arrays.fill(greeting, (byte) 7);
+        Pairs.draft(x, greeting);
+        x.greet();
+        x.begin();
+        x.run(4);
+        return x;
+    }
+
+    /** Each thing that is told of a side is above 0, of the client, and of the server but for its TIMER. */
+    private static LossyPair allCounted() {
+        LossyPair x = Pairs.begun(0, 500);
+        byte[] finished = Octets.fragment(20, 32, 2, 0, new byte[1]);
+        Pairs.hit(x, 0, Octets.of(35, 0, 0, 0, 0));
+        Pairs.hit(x, 1, Octets.of(35, 0, 0, 0, 0));
+        Pairs.ticks(x, 4);
+        x.lose(1, 0);
+        x.deliver(1, 0);
+        Pairs.ticks(x, 4);
+        x.deliver(0, 0);
+        for (int side = 0; side < 2; side++) {
+            Pairs.hit(x, side, Pairs.sealed(x, side, 3, 50, 21, Octets.of(0)), Octets.of(0));
+            Pairs.hit(x, side, Pairs.sealed(x, side, 3, 50, 21, Octets.of(0)), Octets.of(35, 0, 0, 0, 0));
+            Pairs.hit(x, side, Pairs.sealed(x, side, 2, 50, 22, finished));
+        }
+        Pairs.ticks(x, 4);
         return x;
     }
 
