@@ -9,6 +9,7 @@ public final class RandomRunsTest {
     private static final int[] KINDS = {1, 2, 6, 8, 20};
     private static final int[] LENGTHS = {61, 77, 20, 16, 2, 32, 152, 153, 0, 60};
     private static final int[] TYPES = {21, 22, 23, 26};
+    private static final long[] SHARES = {0, 1, 7, 2147483646L, 2147483647L, 2147483648L, 4294967295L};
 
     private final Random dice;
     private final Twin twin;
@@ -216,12 +217,46 @@ public final class RandomRunsTest {
             case 21:
                 return Octets.of(dice.nextInt(12) == 0 ? dice.nextInt(256) : 0);
             case 22:
-                return dice.nextInt(3) == 0 ? fragmentOfFlight(to) : fragment(to);
+                return handshake(to);
             case 26:
                 return acks(to);
             default:
                 return octets(dice.nextInt(64));
         }
+    }
+
+    private byte[] handshake(Model.ModelSide to) {
+        switch (dice.nextInt(6)) {
+            case 0:
+            case 1:
+                return fragmentOfFlight(to);
+            case 2:
+                return to.me == 1 && to.state == 0 ? madeUpHello(to) : madeUpFinished(to);
+            default:
+                return fragment(to);
+        }
+    }
+
+    /** A HELLO that the client did not send; the server has no fault to find with many of them. */
+    private byte[] madeUpHello(Model.ModelSide to) {
+        byte[] random = octets(16);
+        byte[] cookie = dice.nextInt(2) == 0 ? new byte[0] : Octets.part(Octets.mac(to.seed, random), 0, 16);
+        byte[] share = Octets.u4(SHARES[dice.nextInt(SHARES.length)]);
+        byte[] name = dice.nextInt(12) == 0 ? octets(8) : to.name;
+        int told = dice.nextInt(12) == 0 ? 16 - cookie.length : cookie.length;
+        byte[] front = Octets.join(random, Octets.of(told), cookie, share, name);
+        byte[] head = Octets.join(Octets.of(1), Octets.u2(front.length + 32));
+        byte[] binder = dice.nextInt(12) == 0 ? octets(32) : to.binder(Octets.join(head, front));
+        byte[] body = Octets.join(front, binder);
+        return Octets.fragment(1, body.length, dice.nextInt(2), 0, body);
+    }
+
+    /** FINISHED as it is right for the MESSAGES that this side has by now, in one FRAGMENT. */
+    private byte[] madeUpFinished(Model.ModelSide to) {
+        if (to.secrets[0] == null) {
+            return fragment(to);
+        }
+        return Octets.fragment(20, 32, to.next, 0, to.finished(1 - to.me));
     }
 
     private byte[] acks(Model.ModelSide to) {
